@@ -14,6 +14,8 @@ import java.util.Random;
 public final class ModelTest {
     private static final int RUNS = 3000;
     private static final int CALLS = 512;
+    private static final Integer[] WILD = {Integer.MIN_VALUE, Integer.MIN_VALUE + 1, -12, -2, -1, 0, 1, 2, 3, 4, 6, 7,
+        8, 15, 16, 59, 60, 61, 79, 80, 81, 97, 119, 120, 160, 161, Integer.MAX_VALUE - 1, Integer.MAX_VALUE};
     private static final Map<String, Method> PROGRAM = methodsOf(TreePatches.class);
     private static final Map<String, Method> MODEL = methodsOf(Model.class);
 
@@ -23,9 +25,12 @@ public final class ModelTest {
     private final List<String> log = new ArrayList<>();
     private int left = CALLS;
     private boolean failed = false;
+    /** In such a run many a number is one that hardly may be. */
+    private final boolean wild;
 
     private ModelTest(long seed) {
         random = new Random(seed);
+        wild = seed % 10 == 9;
     }
 
     public static void main(String[] args) throws Exception {
@@ -315,6 +320,9 @@ public final class ModelTest {
             return;
         }
         left--;
+        if (wild && args.length > 0 && random.nextInt(4) == 0) {
+            args[random.nextInt(args.length)] = WILD[random.nextInt(WILD.length)];
+        }
         Method method = PROGRAM.get(name);
         Object[] fitted = args.clone();
         for (int i = 0; i < args.length; i++) {

@@ -145,7 +145,7 @@ public final class PromisesTest {
 
     private static String conflicts(int p) {
         StringBuilder told = new StringBuilder();
-        for (int i = 0; x.conflict(p, i, 0) >= 0; i++) {
+        for (int i = 0; i < 200 && x.conflict(p, i, 0) >= 0; i++) {
             told.append(i == 0 ? "" : " ").append(x.conflict(p, i, 0)).append(':').append(x.conflict(p, i, 1));
         }
         return told.toString();
@@ -162,7 +162,7 @@ public final class PromisesTest {
 
     private static void fillPatches() {
         int root = x.node(0, 0, 0);
-        while (x.status(1) < 16) {
+        for (int i = x.status(1); i < 16; i++) {
             x.hand(root, 'q', 0);
         }
     }
@@ -527,6 +527,11 @@ public final class PromisesTest {
         due("one has none", x.same(3, 0), 3);
         due("LABEL", x.same(0, 4), 2);
         due("KEY", x.same(0, 5), 1);
+        x.difference(0, 3);
+        x.apply(0, 0);
+        due("the last was taken from one", x.same(0, 1), 3);
+        due("the last was taken from one", x.same(1, 0), 3);
+        due("both are without it", x.same(0, 3), 0);
         due("no such TREE", x.same(0, 6), -1);
         due("no such TREE", x.same(-1, 0), -1);
         dueRefusals("2,0,0,0,0,0,0");
@@ -601,7 +606,11 @@ public final class PromisesTest {
         fillPatches();
         due("moves(0, 1)", x.moves(0, 1), 2);
         due("moves(0, 0)", x.moves(0, 0), 0);
-        due("no such TREE", x.moves(3, 0), -1);
+        grow("a1(c3(d4,e5),b2,f6)");
+        due("MOVE is the only EDIT", x.moves(0, 3), 1);
+        grow("x1(b2,c3(d4,e5),f6)");
+        due("NAME is the only EDIT", x.moves(0, 4), 0);
+        due("no such TREE", x.moves(5, 0), -1);
         due("no such TREE", x.moves(0, -1), -1);
         due("ROOTS", x.moves(2, 0), -6);
         dueRefusals("2,0,0,0,0,1,0");
@@ -1090,6 +1099,8 @@ public final class PromisesTest {
         x.set(0, 2, 4);
         due("another KEY", x.judge(0, 0, 5), 2);
         due("another KEY", x.judge(0, 0, 3), 2);
+        x.set(0, 0, 2);
+        due("another ROOT", x.judge(0, 0, 5), 0);
         x.row(1, 3, 5);
         for (int i = 0; i < 5; i++) {
             x.set(1, i, i + 1 + (7L << 32));
@@ -1128,7 +1139,42 @@ public final class PromisesTest {
                 due("at most 40", size, 40);
             }
         }
+        daysTake();
         daysBeyondForty();
+    }
+
+    /** A SEED whose next DRAW below 60 is a KEY less 1, and the next but one, below 2, a bit. */
+    private static int seedFor(int key, int bit) {
+        int v = 0;
+        while ((next(v) >>> 16) % 60 != key - 1 || (next(next(v)) >>> 16) % 2 != bit) {
+            v++;
+        }
+        return v;
+    }
+
+    private static int next(int v) {
+        return v * 1103515245 + 12345;
+    }
+
+    private static void daysTake() {
+        begin(35);
+        grow("a1(b2(c3))");
+        int v = seedFor(3, 1);
+        x.seed(v);
+        due("NAME", x.days(0, 1), 3);
+        due("three DRAWS", x.status(5), next(next(next(v))));
+        due("its LABEL", x.node(0, 2, 1), 'a' + (next(next(next(v))) >>> 16) % 26);
+        v = seedFor(3, 0);
+        x.seed(v);
+        due("TAKE", x.days(0, 1), 2);
+        due("two DRAWS", x.status(5), next(next(v)));
+        due("find", x.find(0, 3), -1);
+        grow("a1(b2(c3))");
+        v = seedFor(2, 0);
+        x.seed(v);
+        due("it has CHILDREN: NAME", x.days(1, 1), 3);
+        due("two DRAWS", x.status(5), next(next(v)));
+        due("its LABEL", x.node(1, 1, 1), 'a' + (next(next(v)) >>> 16) % 26);
     }
 
     private static int seed;
@@ -1256,6 +1302,8 @@ public final class PromisesTest {
         for (int what = 0; what < want.length; what++) {
             due("status(" + what + ")", x.status(what), want[what]);
         }
+        x.show(0, -1);
+        due("SHELVES that hold something", x.status(6), 2);
         due("status(-1)", x.status(-1), -1);
         due("status(7)", x.status(7), -1);
         due("status(10)", x.status(10), -1);
@@ -1265,5 +1313,7 @@ public final class PromisesTest {
         dueRefusals("0,0,0,0,0,0,0");
         x.row(0, 0, 161);
         dueRefusals("0,0,0,0,0,0,1");
+        x.row(0, 0, 0);
+        due("SHELVES that hold something", x.status(6), 3);
     }
 }
