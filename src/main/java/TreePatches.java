@@ -655,14 +655,11 @@ public final class TreePatches {
     private static final class State {
         private final Tree[] trees = new Tree[MAX_TREES];
         private final Patch[] patches = new Patch[MAX_PATCHES];
-        int treeCount;
-        int patchCount;
-        int seed;
+        int treeCount = 0;
+        int patchCount = 0;
+        int seed = 1;
 
         State() {
-            treeCount = 0;
-            patchCount = 0;
-            seed = 1;
         }
 
         State(State other) {
@@ -755,22 +752,18 @@ public final class TreePatches {
      * enough for 80 NODES, never run full.
      */
     private static final class Tree {
-        private final int[] keys;
-        private final int[] labels;
-        private final int[] depths;
-        int size;
+        private final int[] keys = new int[MAX_NODES];
+        private final int[] labels = new int[MAX_NODES];
+        private final int[] depths = new int[MAX_NODES];
+        int size = 0;
 
         Tree() {
-            keys = new int[MAX_NODES];
-            labels = new int[MAX_NODES];
-            depths = new int[MAX_NODES];
-            size = 0;
         }
 
         Tree(Tree other) {
-            keys = other.keys.clone();
-            labels = other.labels.clone();
-            depths = other.depths.clone();
+            System.arraycopy(other.keys, 0, keys, 0, MAX_NODES);
+            System.arraycopy(other.labels, 0, labels, 0, MAX_NODES);
+            System.arraycopy(other.depths, 0, depths, 0, MAX_NODES);
             size = other.size;
         }
 
@@ -1271,8 +1264,8 @@ public final class TreePatches {
         private final Edit[] edits = new Edit[MAX_EDITS];
         private final int[] conflicts = new int[2 * MAX_EDITS];
         /** May be above MAX_EDITS: what is beyond is only counted. */
-        int size;
-        private int conflictCount;
+        int size = 0;
+        private int conflictCount = 0;
 
         void clear() {
             size = 0;
