@@ -585,6 +585,7 @@ public final class TermsEdgesTest extends Edges {
 
         sentence(TERMS, "for each NODE p of it: STAYING are those of its CHILDREN in U");
         differs("a1(b2(b5,b6,b7),b3(b8,b9),b4)", "a1(b2(b5,b6,b7),b3(b9,b8),b4)", "M9:3.1>3.0");
+        differs("a1(b2(b5,b6,b7),b3(b9,b8,b10))", "a1(b2(b5,b6,b7),b3(b8,b9,b10))", "M8:3.1>3.0");
         differs("a1(b2(b5,b6,b7),b3,b4)", "a1(b2(b7,b6,b5),b3,b4)", "M7:2.2>2.0 M6:2.2>2.1");
         differs("a1(b2(b5,b6),b3(b7,b8))", "a1(b3(b7,b5,b8),b2(b6))", "M3:1.1>1.0 M5:2.0>3.1");
 
