@@ -30,6 +30,7 @@ public final class TermsEdgesTest extends Edges {
         daysThere();
         draws();
         shelvesAndRows();
+        whatTheNumbersMean();
         refusalsChangeNothing();
         refusalsInOrder();
         finish();
@@ -1225,6 +1226,63 @@ public final class TermsEdgesTest extends Edges {
         due("row(2, 3, 4)", 1);
         due("set(2, 1, 4)", 1);
         faulty("a1(", 3);
+    }
+
+    private static void whatTheNumbersMean() {
+        sentence(TERMS, "-1 NOBODY: no such SHELF, TREE, PATCH.");
+        grownRich();
+        String[] none = {"-2147483648", "-1", "8", "2147483647"};
+        for (String number : none) {
+            refused("tree(" + number + ")", -1);
+            refused("nodes(" + number + ")", -1);
+            refused("touched(" + number + ", 0)", -1);
+        }
+
+        sentence(TERMS, "-2 OTHER: a SHELF that holds a PATCH where a ROW is wanted, or the other way about, ROWS of two SORTS, "
+                + "a PATCH that isn't of the sort wanted.");
+        grownRich();
+        refused("tree(0)", -2);
+        refused("set(1, 0, 0)", -2);
+        refused("says(2, 0)", -2);
+        refused("copy(2, 7, 0, 0, 1)", -2);
+        refused("says(0, 1)", -2);
+        refused("says(1, 2)", -2);
+        refused("judge(0, 0, 1)", -12);
+
+        sentence(TERMS, "-3 NOTHING: a SHELF that holds NOTHING.");
+        grownRich();
+        refused("tree(3)", -3);
+        refused("set(3, 0, 0)", -3);
+        refused("says(3, 0)", -3);
+        refused("copy(3, 3, 0, 0, 1)", -3);
+        refused("judge(3, 0, 1)", -13);
+        due("show(0, -1)", 0);
+        refused("tree(0)", -3);
+        refused("says(0, 0)", -3);
+
+        sentence(TERMS, "-4 BELOW: a size below 0.");
+        grownRich();
+        refused("row(2, 0, -1)", -4);
+        refused("copy(2, 2, 0, 0, -1)", -4);
+        refused("judge(2, 0, -1)", -14);
+        due("copy(2, 2, 0, 0, 0)", 1);
+        due("judge(2, 0, 0)", 0);
+        due("row(2, 0, 0)", 1);
+
+        sentence(TERMS, "-5 BEYOND: an element that isn't there; nothing such to be told of.");
+        grownRich();
+        refused("set(2, 4, 0)", -5);
+        refused("copy(2, 2, 0, 1, 4)", -5);
+        refused("judge(2, 0, 5)", -15);
+        refused("node(0, 4, 0)", -5);
+        refused("child(0, 4, 0)", -5);
+        refused("above(0, 1, 5)", -5);
+        refused("patchOf(4, 0)", -5);
+        refused("edit(3, 1, 0)", -5);
+        refused("touched(3, 2)", -5);
+        refused("conflict(3, 0, 0)", -5);
+        refused("hand(5, 97, 0)", -5);
+        refused("put(0, 5, 1, 0)", -5);
     }
 
     private static void refusalsChangeNothing() {
