@@ -7,6 +7,8 @@ import java.lang.management.ManagementFactory;
  */
 public final class RoomTest {
     private static final long MOST_BYTES = 16L * 600_000;
+    /** Behind the two PATCHES that grew the TREES. */
+    private static final int PATCH = 2;
     private static final ThreadMXBean MEMORY = (ThreadMXBean) ManagementFactory.getThreadMXBean();
     private static int wrong = 0;
 
@@ -37,21 +39,19 @@ public final class RoomTest {
             }
         });
         look("invert, apply", x -> {
-            x.difference(0, 1);
-            x.invert(0);
+            x.invert(PATCH);
             for (int i = 0; i < 256; i++) {
-                x.apply(0, 0);
-                x.apply(1, 0);
-                x.invert(0);
+                x.apply(PATCH, 0);
+                x.apply(PATCH + 1, 0);
+                x.invert(PATCH);
                 x.forget();
             }
         });
         look("squeeze, rebase", x -> {
-            x.difference(0, 1);
             for (int i = 0; i < 256; i++) {
-                x.squeeze(0);
+                x.squeeze(PATCH);
                 x.forget();
-                x.rebase(0, 0);
+                x.rebase(PATCH, 0);
                 x.forget();
             }
         });
@@ -69,17 +69,56 @@ public final class RoomTest {
         }
     }
 
-    private static void look(String what, Run run) {
+    /** TREES 0 and 1 have 60 NODES, and PATCH is their DIFFERENCE, of 119 EDITS: none can have more. */
+    private static TreePatches grown() {
         TreePatches x = new TreePatches();
-        x.row(0, 0, 2);
-        x.set(0, 0, 'a');
-        x.set(0, 1, '1');
-        x.tree(0);
-        x.tree(0);
-        for (int i = 0; i < 20; i++) {
-            x.days(0, 60);
-            x.days(1, 60);
+        growSixty(x, 'a', 2, 3);
+        growSixty(x, 'b', 3, 2);
+        x.difference(0, 1);
+        must("nodes(0)", x.nodes(0), 60);
+        must("nodes(1)", x.nodes(1), 60);
+        must("patchOf(PATCH, 0)", x.patchOf(PATCH, 0), 119);
+        return x;
+    }
+
+    /** All below one CHILD of the ROOT, the first of them told; a text has 40 NODES, a PATCH gives the rest. */
+    private static void growSixty(TreePatches x, char label, int top, int first) {
+        String root = new StringBuilder().append(label).append("1(").append(label).append(top).toString();
+        int trees = x.status(0);
+        read(x, root + ")");
+        StringBuilder late = new StringBuilder(root).append('(').append(label).append(41);
+        for (int key = 42; key <= 60; key++) {
+            late.append(',').append(label).append(key);
         }
+        read(x, late.append("))").toString());
+        int gift = x.difference(trees, trees + 1);
+        x.drop(trees + 1);
+        x.drop(trees);
+        StringBuilder early = new StringBuilder(root).append('(').append(label).append(first);
+        for (int key = 4; key <= 40; key++) {
+            early.append(',').append(label).append(key);
+        }
+        read(x, early.append("))").toString());
+        x.apply(gift, trees);
+    }
+
+    private static void read(TreePatches x, String text) {
+        x.row(0, 0, text.length());
+        for (int i = 0; i < text.length(); i++) {
+            x.set(0, i, text.charAt(i));
+        }
+        x.tree(0);
+    }
+
+    private static void must(String what, int got, int want) {
+        if (got != want) {
+            wrong++;
+            System.out.println(what + " is " + got + ", due is " + want);
+        }
+    }
+
+    private static void look(String what, Run run) {
+        TreePatches x = grown();
         long before = MEMORY.getThreadAllocatedBytes(Thread.currentThread().getId());
         run.go(x);
         long made = MEMORY.getThreadAllocatedBytes(Thread.currentThread().getId()) - before;
